@@ -486,10 +486,11 @@ public final class EvenDays {
         int readInto(Told draft) {
             faultAt = NONE;
             tokens.rewind();
-            for (read = 1; read <= MOST_LINES; read++) {
+            for (int line = 1; line <= MOST_LINES; line++) {
                 readLine(draft);
+                read = line;
                 if (faultAt != NONE || tokens.isEnd()) return faultAt;
-                if (read == MOST_LINES || !tokens.isSign(';')) return tokens.begin;
+                if (line == MOST_LINES || !tokens.isSign(';')) return tokens.begin;
                 tokens.advance();
             }
             return faultAt;
@@ -699,9 +700,12 @@ public final class EvenDays {
      */
     private static final class Planner {
         private static final int NEEDS = MOST_NEED + 1, ROWS = MOST_PAIRS * MOST_HOURS + 1;
+        private static final int MOST_MADE = VALLEYS * 20;
 
         private final Told told;
         private final int[] best = new int[2 * ROWS * NEEDS];
+        /** For each BREAD that two may make at a place, the greatest WORTH with just so much. */
+        private final int[] worthFor = new int[MOST_MADE + 1];
         private final boolean[] isReckoned = new boolean[2];
         /** What the two do at the place that was followed to last. */
         private int one, other;
@@ -740,18 +744,34 @@ public final class EvenDays {
         }
 
         private void reckonPlace(int odd, int pair, int hour) {
-            int row = rowOf(odd, pair, hour);
+            int row = rowOf(odd, pair, hour), worth = NONE;
             clearRow(row);
+            findWorths(odd, pair, hour);
+            for (int made = MOST_MADE; made >= 0; made--) {
+                // What has no more WORTH than something with more BREAD is never needed.
+                if (worthFor[made] <= worth) continue;
+                worth = worthFor[made];
+                offerAll(row, made, worth);
+            }
+        }
+
+        private void findWorths(int odd, int pair, int hour) {
+            Arrays.fill(worthFor, NONE);
             for (int first = 0; first <= REST; first++) {
                 for (int second = 0; second <= REST; second++) {
                     if (!isAllowed(odd, pair, hour, first, second)) continue;
-                    int made = madeBy(pair, first, second), worth = worthOf(first, second);
-                    for (int need = 0; need < NEEDS; need++) {
-                        int rest = bestFrom(row + NEEDS, need - made);
-                        if (rest == NONE) break;
-                        offer(row, need, rest + worth);
-                    }
+                    int made = madeBy(pair, first, second);
+                    if (!within(made, 0, MOST_MADE)) continue;
+                    worthFor[made] = Math.max(worthFor[made], worthOf(first, second));
                 }
+            }
+        }
+
+        private void offerAll(int row, int made, int worth) {
+            for (int need = 0; need < NEEDS; need++) {
+                int rest = bestFrom(row + NEEDS, need - made);
+                if (rest == NONE) return;
+                offer(row, need, rest + worth);
             }
         }
 
@@ -795,11 +815,14 @@ public final class EvenDays {
 
         private void choose(int odd, int pair, int hour, int need) {
             int row = rowOf(odd, pair, hour), due = bestFrom(row, need);
-            for (one = 0; one <= REST; one++) {
-                for (other = 0; other <= REST; other++) {
-                    if (!isAllowed(odd, pair, hour, one, other)) continue;
-                    int rest = bestFrom(row + NEEDS, need - madeBy(pair, one, other));
-                    if (rest != NONE && rest + worthOf(one, other) == due) return;
+            for (int first = 0; first <= REST; first++) {
+                for (int second = 0; second <= REST; second++) {
+                    if (!isAllowed(odd, pair, hour, first, second)) continue;
+                    int rest = bestFrom(row + NEEDS, need - madeBy(pair, first, second));
+                    if (rest == NONE || rest + worthOf(first, second) != due) continue;
+                    one = first;
+                    other = second;
+                    return;
                 }
             }
         }
@@ -938,15 +961,20 @@ public final class EvenDays {
             int all = Math.min(1 << pairs, SETS) - 1;
             greatest[0] = 0;
             for (int set = 1; set <= all; set++) {
-                int first = Integer.numberOfTrailingZeros(set), others = set & set - 1;
-                int best = greatest[others];
-                for (int other = first + 1; other < pairs; other++) {
-                    int left = others & ~(1 << other);
-                    if (left != others) best = Math.max(best, greatest[left] + valueOf(first, other));
-                }
-                greatest[set] = best;
+                greatest[set] = greatestOfSet(set, pairs);
             }
             return all >= 0 ? greatest[all] : 0;
+        }
+
+        /** The first of the set stays alone, or marries one of the others. */
+        private int greatestOfSet(int set, int pairs) {
+            int others = set & set - 1, first = Integer.bitCount((set & -set) - 1);
+            int best = greatest[others];
+            for (int other = 0; other < pairs; other++) {
+                int left = others & ~(1 << other);
+                if (left != others) best = Math.max(best, greatest[left] + valueOf(first, other));
+            }
+            return best;
         }
 
         private int valueOf(int one, int other) {
