@@ -319,13 +319,14 @@ public final class EvenDays {
         }
 
         void tellWork(int work, int itsClass, int worth) {
-            if (!isHeld(work)) return;
+            if (work < 0 || work >= REST) return;
             classes[work] = itsClass;
             worths[work] = worth;
         }
 
         void tellBread(int valley, int work, int bread) {
-            if (isValley(valley) && isHeld(work)) breads[valley * REST + work] = bread;
+            if (valley < 0 || valley >= VALLEYS || work < 0 || work >= REST) return;
+            breads[valley * REST + work] = bread;
         }
 
         void tellKind(int pair, int kind) {
@@ -345,24 +346,21 @@ public final class EvenDays {
             return within(hour, 0, hours - 1);
         }
 
-        private boolean isHeld(int work) {
-            return within(work, 0, REST - 1);
-        }
-
         int kindOf(int pair) {
-            return hasPair(pair) ? kinds[pair] : NONE;
+            return pair >= 0 && pair < pairs && pair < MOST_PAIRS ? kinds[pair] : NONE;
         }
 
         int classOf(int work) {
-            return isHeld(work) ? classes[work] : REST_CLASS;
+            return work >= 0 && work < REST ? classes[work] : REST_CLASS;
         }
 
         int worthOf(int work) {
-            return isHeld(work) ? worths[work] : 0;
+            return work >= 0 && work < REST ? worths[work] : 0;
         }
 
         int breadOf(int valley, int work) {
-            return isValley(valley) && isHeld(work) ? breads[valley * REST + work] : 0;
+            boolean isHeld = valley >= 0 && valley < VALLEYS && work >= 0 && work < REST;
+            return isHeld ? breads[valley * REST + work] : 0;
         }
 
         int meantOn(int odd, int valley, int pair, int hour) {
@@ -377,7 +375,7 @@ public final class EvenDays {
         /** Whether one of the PAIR, if well, does this WORK when it wants to, and not REST for it. */
         boolean mayDo(int valley, int pair, int hour, int work) {
             if (work == REST) return true;
-            if (!canBeDone(valley, work)) return false;
+            if (breadOf(valley, work) == NONE) return false;
             int kind = kindOf(pair);
             if (kind == LAME && classOf(work) == HEAVY_CLASS) return false;
             return kind != CHILD || hours < 2 || hour != hours - 1;
@@ -432,16 +430,15 @@ public final class EvenDays {
         void advance() {
             begin = behind;
             while (begin < text.length && text.signAt(begin) == ' ') begin++;
-            kind = kindAt(begin);
+            kind = kindOfSign(text.signAt(begin));
             behind = begin;
             if (kind == END) return;
             behind++;
             if (kind == SIGN) return;
-            while (behind < text.length && kindAt(behind) == kind) behind++;
+            while (behind < text.length && kindOfSign(text.signAt(behind)) == kind) behind++;
         }
 
-        private int kindAt(int place) {
-            int sign = text.signAt(place);
+        private static int kindOfSign(int sign) {
             if (sign == NONE) return END;
             if (sign >= 'a' && sign <= 'z') return WORD;
             if (sign >= '0' && sign <= '9') return NUMBER;
@@ -464,9 +461,10 @@ public final class EvenDays {
             return true;
         }
 
-        /** The number that the TOKEN is; NONE if it is none of 1 or 2 digits. */
+        /** The number that the TOKEN tells: NONE by -, too much if it is none of 1 or 2 digits. */
         int number() {
-            if (kind != NUMBER || behind - begin > 2) return NONE;
+            if (kind == SIGN && text.signAt(begin) == '-') return NONE;
+            if (kind != NUMBER || behind - begin > 2) return TOO_MUCH;
             int value = 0;
             for (int i = begin; i < behind; i++) value = value * 10 + text.signAt(i) - '0';
             return value;
@@ -517,8 +515,8 @@ public final class EvenDays {
             tokens.advance();
             int work = takeNumber(0, REST - 1);
             int itsClass = takeNumber(0, CLASSES - 1);
-            int bread = takeBread();
-            int otherBread = takeBread();
+            int bread = takeNumber(NONE, 20);
+            int otherBread = takeNumber(NONE, 20);
             int worth = takeNumber(0, 20);
             if (faultAt != NONE) return;
             draft.tellWork(work, itsClass, worth);
@@ -561,18 +559,9 @@ public final class EvenDays {
         private int takeNumber(int least, int most) {
             if (faultAt != NONE) return NONE;
             int value = tokens.number();
-            if (!within(value, least, most)) {
-                faultAt = tokens.begin;
-                return NONE;
-            }
-            tokens.advance();
+            if (within(value, least, most)) tokens.advance();
+            else faultAt = tokens.begin;
             return value;
-        }
-
-        private int takeBread() {
-            if (faultAt != NONE || !tokens.isSign('-')) return takeNumber(0, 20);
-            tokens.advance();
-            return NONE;
         }
     }
 
@@ -739,14 +728,16 @@ public final class EvenDays {
             clearRow(rowOf(odd, told.pairs, 0));
             offer(rowOf(odd, told.pairs, 0), 0, 0);
             for (int pair = told.pairs - 1; pair >= 0; pair--) {
-                for (int hour = told.hours - 1; hour >= 0; hour--) reckonPlace(odd, pair, hour);
+                for (int hour = told.hours - 1; hour >= 0; hour--) {
+                    findWorths(odd, pair, hour);
+                    reckonRow(rowOf(odd, pair, hour));
+                }
             }
         }
 
-        private void reckonPlace(int odd, int pair, int hour) {
-            int row = rowOf(odd, pair, hour), worth = NONE;
+        private void reckonRow(int row) {
+            int worth = NONE;
             clearRow(row);
-            findWorths(odd, pair, hour);
             for (int made = MOST_MADE; made >= 0; made--) {
                 // What has no more WORTH than something with more BREAD is never needed.
                 if (worthFor[made] <= worth) continue;

@@ -29,6 +29,13 @@ public final class DaysTest {
         Due.is("cannot be done there", x.done(0, 1, 1, 2), Due.NOT);
         Due.is("can in the other valley", x.done(1, 1, 1, 2), 1);
         Due.is("rest can be done", x.done(0, 1, 1, 5), 1);
+        EvenDays great = Due.told("treaty 6 4");
+        Due.is("the last of all", great.done(1, 5, 3, 4), 1);
+        Due.is("the last of all", great.person(1, 5, 13), 4);
+        Due.is("its breach", great.breaches(5), 8);
+        great.days(1);
+        Due.is("its fault", great.person(1, 5, 0), 1);
+        Due.is("not its double's", great.person(0, 5, 0), 0);
         x.days(2);
         Due.is("it was of one day", x.person(0, 0, 10), 1);
         Due.is("and so was this", x.person(1, 1, 11), 5);

@@ -1,3 +1,5 @@
+import java.io.PrintWriter;
+import java.io.StringWriter;
 import java.lang.reflect.Array;
 import java.lang.reflect.Constructor;
 import java.lang.reflect.Field;
@@ -9,10 +11,13 @@ import java.nio.file.Path;
 import java.util.ArrayList;
 import java.util.Arrays;
 import java.util.List;
+import java.util.Map;
 import java.util.Set;
+import java.util.TreeMap;
 import java.util.TreeSet;
 import java.util.regex.Matcher;
 import java.util.regex.Pattern;
+import java.util.spi.ToolProvider;
 
 /** What can be seen of LANGUAGE.md's rules, and the face and the room of the class. */
 public final class LanguageTest {
@@ -36,6 +41,7 @@ public final class LanguageTest {
         words(source);
         methods(source);
         newThings(source);
+        depth();
         room();
         Due.end("LanguageTest");
     }
@@ -145,6 +151,44 @@ public final class LanguageTest {
             boolean isField = line.trim().startsWith("private final ") || line.contains("tokens = new Tokens(");
             Due.isTrue("made with the object: " + line.trim(), isField);
         }
+    }
+
+    /** Calls go at most eight deep, and none calls itself: javap tells who calls whom. */
+    private static void depth() {
+        List<String> classes = new ArrayList<>(Arrays.asList("-p", "-c", "-cp", System.getProperty("java.class.path"), "EvenDays"));
+        for (Class<?> c : EvenDays.class.getDeclaredClasses()) classes.add(c.getName());
+        StringWriter told = new StringWriter();
+        ToolProvider javap = ToolProvider.findFirst("javap").orElseThrow();
+        Due.is("javap", javap.run(new PrintWriter(told), new PrintWriter(System.out), classes.toArray(new String[0])), 0);
+        Map<String, Set<String>> calls = new TreeMap<>();
+        Pattern head = Pattern.compile("^  (?:[\\w.$\\[\\]]+ )*([\\w.$]+)\\(.*\\);$");
+        Pattern call = Pattern.compile("// Method (?:([\\w/$]+)\\.)?\"?([\\w<>]+)\"?:");
+        String inClass = "", method = "";
+        for (String line : told.toString().split("\\R")) {
+            Matcher start = Pattern.compile("class ([\\w$]+).*\\{").matcher(line);
+            Matcher begins = head.matcher(line), goes = call.matcher(line);
+            if (start.find()) inClass = start.group(1);
+            if (begins.matches()) {
+                method = inClass + "." + (begins.group(1).equals(inClass) ? "<init>" : begins.group(1));
+                calls.put(method, new TreeSet<>());
+            } else if (goes.find() && !method.isEmpty()) {
+                String target = goes.group(1) == null ? inClass : goes.group(1);
+                calls.get(method).add(target + "." + goes.group(2));
+            }
+        }
+        Due.isTrue("methods were told", calls.size() > 90);
+        for (String each : calls.keySet()) {
+            int deep = deepest(each, calls, 0);
+            Due.isTrue(each + " goes " + deep + " deep", deep <= 8);
+        }
+    }
+
+    private static int deepest(String method, Map<String, Set<String>> calls, int above) {
+        int deep = 0;
+        for (String each : above > 20 ? Set.<String>of() : calls.getOrDefault(method, Set.of())) {
+            deep = Math.max(deep, deepest(each, calls, above + 1));
+        }
+        return deep + 1;
     }
 
     private static void room() throws Exception {

@@ -180,6 +180,12 @@ public final class PlansTest {
         int[] due = {1, 0, 2, 3, 4, 5};
         for (int i = 0; i < 6; i++) Due.is("first by these", x.anew(i), due[i]);
         for (int j = 0; j < 6; j++) x.harm(5, j, 99);
+        x.forced(0, 5);
+        Due.is("whatever was forced ahead", x.anew(0), 1);
+        x.harm(1, 0, 50);
+        Due.is("whatever it was ahead", x.anew(0), 1);
+        Due.is("whatever it was ahead", x.anew(1), 2);
+        x.harm(1, 0, 0);
         Due.is("all alike bad", x.anew(-1), 99);
         for (int i = 0; i < 6; i++) Due.is("first by these", x.anew(i), due[i]);
         Due.is("forced", x.forced(0, 0), 100);

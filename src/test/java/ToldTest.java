@@ -74,7 +74,7 @@ public final class ToldTest {
 
     private static void faultsOfWords() {
         EvenDays x = new EvenDays();
-        String[] notWords = {"peace", "treat", "treatys", "Treaty 1 1", "works 0", "kin", "mean", "eat", "fines 3", "7", "-", ";"};
+        String[] notWords = {"peace", "dine 3", "xreaty 1 1", "treat", "treatys", "Treaty 1 1", "works 0", "kin", "mean", "eat", "fines 3", "7", "-", ";"};
         for (String text : notWords) Due.faultIs(x, text, 0);
         Due.faultIs(x, "  finee 3", 2);
         Due.faultIs(x, "fine eats", 5);
@@ -103,6 +103,10 @@ public final class ToldTest {
         Due.faultIs(x, "work 4 3 -- 20", Due.NONE);
         Due.faultIs(x, "work - 3 -- 20", 5);
         Due.faultIs(x, "work 4 3 -5 20 1", 15);
+        Due.faultIs(x, "work 4 3 , 5 1", 9);
+        Due.faultIs(x, "work 4 3 5 ; 1", 11);
+        Due.faultIs(x, "work 4 3 x 5 1", 9);
+        Due.faultIs(x, "work 4 3 5 005 1", 11);
         Due.faultIs(x, "kind 2 0", 5);
         Due.faultIs(x, "kind 1 4", 7);
         Due.faultIs(x, "kind 1 3", Due.NONE);
@@ -139,6 +143,9 @@ public final class ToldTest {
         Due.faultIs(x, "work 2 0 - - 0;work 2 0 0 0 0;meant 0 0 0 0 2", Due.NONE);
         Due.faultIs(x, "work 2 0 - - 0;meant 0 0 0 0 5", Due.NONE);
         Due.is("nothing came of it", x.count(0), 2);
+        // a text that was looked at, and not done, is no line ahead of the next
+        Due.faultIs(x, "treaty 1 1;work 0 0 - - 0", Due.NONE);
+        Due.faultIs(x, "meant 0 0 1 1 0", Due.NONE);
         Due.tell(x, "work 2 0 - 1 0");
         Due.faultIs(x, "meant 0 0 0 0 2", 14);
         Due.faultIs(x, "treaty 2 2;meant 0 0 0 0 2", 25);
@@ -161,6 +168,10 @@ public final class ToldTest {
         Due.faultIs(x, "fine \0007", 5);
         Due.faultIs(x, "fine 7\377", 6);
         Due.faultIs(x, "FINE 7", 0);
+        Due.faultIs(x, "finez 7", 0);
+        Due.faultIs(x, "finea 7", 0);
+        Due.faultIs(x, "fine 7z", 6);
+        Due.faultIs(x, "fine 0;fine 9;fine 09", Due.NONE);
         Due.faultIs(x, "fine +7", 5);
         Due.faultIs(x, "fine -7", 5);
         Due.faultIs(x, "fine {", 5);
@@ -277,6 +288,10 @@ public final class ToldTest {
         Due.is("even", x.meant(2, 0, 0, 0), Due.OUTSIDE);
         Due.is("even", x.meant(-1, 0, 0, 0), Due.OUTSIDE);
         Due.is("both", x.meant(2, 0, 0, 3), Due.UNKNOWN);
+        EvenDays great = Due.told("treaty 6 4;meant 1 1 5 3 4;meant 0 0 0 0 2");
+        Due.is("the last of all", great.meant(1, 1, 5, 3), 4);
+        Due.is("the first of all", great.meant(0, 0, 0, 0), 2);
+        Due.is("one ahead of it", great.meant(1, 1, 5, 2), 5);
         Due.tell(x, "work 1 0 - - 0");
         Due.is("what is meant is still told", x.meant(0, 0, 0, 0), 1);
         Due.is("but rest is done", x.person(0, 0, 10), 5);
