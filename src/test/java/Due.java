@@ -3,16 +3,33 @@ final class Due {
     static final int NONE = EvenDays.NONE, UNKNOWN = EvenDays.UNKNOWN, OUTSIDE = EvenDays.OUTSIDE;
     static final int NOT = EvenDays.NOT, FULL = EvenDays.FULL;
 
-    private static int looked = 0, wrong = 0;
+    private static int looked = 0, wrong = 0, lookedBefore = 0;
+    private static String sentence = "";
 
     private Due() {
+    }
+
+    /** What is answered wrongly from here on is printed with this sentence. */
+    static void begin(String next) {
+        isTrue("something is looked at", sentence.isEmpty() || looked > lookedBefore);
+        sentence = next;
+    }
+
+    static void lookFromHere() {
+        lookedBefore = looked;
     }
 
     static void is(String call, long got, long want) {
         looked++;
         if (got == want) return;
         wrong++;
+        if (!sentence.isEmpty()) System.out.println("\"" + sentence + "\":");
         System.out.println(call + " answered " + got + ", due is " + want);
+    }
+
+    /** How many answers were looked at so far. */
+    static int looked() {
+        return looked;
     }
 
     static void isTrue(String what, boolean is) {

@@ -3,13 +3,14 @@ public final class ModelTest {
     private final EvenDays x = new EvenDays();
     private final Model m = new Model();
     private long seed;
+    private int callsUnlooked = 0;
 
     private ModelTest(long seed) {
         this.seed = seed * 7919 + 12345;
     }
 
     public static void main(String[] args) {
-        for (int run = 0; run < 300; run++) new ModelTest(run).run();
+        for (int run = 0; run < 1500; run++) new ModelTest(run).run();
         Due.end("ModelTest");
     }
 
@@ -19,8 +20,10 @@ public final class ModelTest {
         return (int) ((seed >>> 33) % bound);
     }
 
+    /** Each look is a call; a step takes no more than 170, so the object stays below its 512. */
     private void run() {
-        for (int call = 0; call < 90; call++) {
+        int before = Due.looked();
+        while (Due.looked() - before + callsUnlooked < 340) {
             switch (some(16)) {
                 case 0: case 1: text(); break;
                 case 2: case 3: done(); break;
@@ -47,6 +50,7 @@ public final class ModelTest {
             line(text);
         }
         m.begin();
+        callsUnlooked += text.length() / 8 + 2;
         Due.is("write", Due.write(x, text.toString()), text.length());
         Due.is("fault of " + text, x.fault(), Due.NONE);
         Due.is("treaty of " + text, x.treaty(), lines);
@@ -164,6 +168,7 @@ public final class ModelTest {
         Due.is("worth", x.plan(odd, bread, 0), due);
         if (due < 0) return;
         int made = 0, worth = 0;
+        callsUnlooked += m.n * m.h;
         for (int p = 0; p < m.n; p++) {
             for (int k = 0; k < m.h; k++) {
                 int one = x.planned(odd, bread, 0, p, k), other = x.planned(odd, bread, 1, p, k);
@@ -277,5 +282,6 @@ public final class ModelTest {
         x.write(seed, any());
         x.fault();
         x.erase();
+        callsUnlooked += 3;
     }
 }
