@@ -621,27 +621,28 @@ public final class DayBoundsTest {
 
     private static void keptIsWhole() {
         Doc.promises(26, "DAYS, BREAD, FAULTS, what is owed, who is ILL, what is DONE otherwise are kept");
-        for (int k = 0; k < 2; k++) {
+        for (int round = 0; round < 4; round++) {
+            int k = round & 1;
             EvenDays x = Due.told("treaty 6 4;work 0 0 3 4 0;eats 1;fine 2;meant 0 0 0 0 0;meant 1 1 5 3 0");
             x.days(5);
-            x.ill(0, 0, true);
-            x.ill(1, 5, true);
-            x.done(0, 5, 3, 2);
-            x.done(1, 0, 0, 3);
+            // the first and the last of all, or all but these
+            for (int i = 0; i < 12; i++) if ((i == 0 || i == 11) == (round < 2)) x.ill(i & 1, i >> 1, true);
+            for (int i = 0; i < 48; i++) x.done(i & 1, (i >> 1) % 6, (i >> 1) / 6, (i + round) % 5);
             int[] before = seen(x);
             Due.is("keep", x.keep(k), 5);
-            x.days(9);
-            x.ill(0, 0, false);
-            x.ill(1, 5, false);
-            x.ill(0, 5, true);
-            x.done(0, 5, 3, 1);
-            x.done(0, 2, 2, 1);
+            for (int i = 0; i < 12; i++) x.ill(i & 1, i >> 1, false);
+            x.days(8);
+            for (int i = 0; i < 12; i++) if ((i == 0 || i == 11) == (round > 1)) x.ill(i & 1, i >> 1, true);
+            for (int i = 0; i < 48; i++) x.done(i & 1, (i >> 1) % 6, (i >> 1) / 6, 4 - (i + round) % 5);
+            x.days(1);
             Due.is("back", x.back(k), 5);
             int[] after = seen(x);
             for (int i = 0; i < before.length; i++) Due.is("seen " + i, after[i], before[i]);
-            Due.is("ill", x.ill(0, 0, false), 1);
-            Due.is("ill", x.ill(1, 5, false), 1);
-            Due.is("well", x.ill(0, 5, false), 0);
+            for (int i = 0; i < 12; i++) {
+                Due.is("ill", x.ill(i & 1, i >> 1, false), (i == 0 || i == 11) == (round < 2) ? 1 : 0);
+            }
+            // of who was ill too it is known again what was told
+            for (int i = 0; i < 48; i++) Due.is("told", x.person(i & 1, (i >> 1) % 6, 10 + (i >> 1) / 6), (i + round) % 5);
         }
     }
 

@@ -257,6 +257,15 @@ public final class PlanBoundsTest {
         Due.is("even: too much bread", x.planned(0, 1, 1, 2, 1), Due.NONE);
         Due.tell(x, "kind 1 1");
         Due.is("no child any more", x.plan(1, 0, 0), 0);
+        for (int i = 0; i < 24; i++) {
+            EvenDays poor = Due.told("treaty " + (1 + i / 4) + " " + (1 + i % 4));
+            for (int odd = 0; odd < 2; odd++) {
+                Due.is("no bread is needed", poor.plan(odd, 0, 1), 0);
+                Due.is("1 is needed", poor.plan(odd, 1, 0), Due.NONE);
+                Due.is("199 are needed", poor.plan(odd, 199, 0), Due.NONE);
+                Due.is("200 are needed", poor.plan(odd, 200, 0), Due.NONE);
+            }
+        }
     }
 
     private static void plan() {
@@ -300,6 +309,12 @@ public final class PlanBoundsTest {
         Due.is("most bread", x.plan(0, 172, 1), 172);
         Due.is("most bread", x.planned(0, 172, 1, 5, 3), 5);
         Due.is("more", x.planned(0, 173, 1, 5, 3), Due.NONE);
+        Due.tell(x, "kind 5 1;work 3 3 5 5 9");
+        for (int odd = 0; odd < 2; odd++) {
+            Due.is("behind a text: the worth", x.plan(odd, 0, 0), odd == 0 ? 360 : 216);
+            Due.is("behind a text: the lame", x.planned(odd, 0, odd, 5, 3), odd == 0 ? 0 : 5);
+            Due.is("behind a text: the released", x.planned(odd, 0, odd, 0, 0), 3);
+        }
     }
 
     private static void plannedRefused() {
@@ -834,6 +849,7 @@ public final class PlanBoundsTest {
         Due.is("one", x.burn(), 1);
         Due.is("empty", x.burn(), 0);
         for (int i = 0; i < 41; i++) x.record(false);
+        slipsAre(x, 9, 9, 180, 0, Due.NONE);
         Due.is("full", x.burn(), 40);
         Due.is("rows", x.count(5), 0);
         slipsAre(x, 1, 9, 0, 0, Due.NONE);
@@ -842,6 +858,17 @@ public final class PlanBoundsTest {
         for (int i = 1; i < 40; i++) x.record(i % 2 == 0);
         slipsAre(x, 1, 9, 0, 0, Due.NONE);
         Due.is("full again", x.record(true), Due.FULL);
+        for (int length = 39; length > 0; length--) {
+            // what was reckoned of the longer one ahead is nothing to the shorter one
+            EvenDays y = recorded("0".repeat(40));
+            y.slips(9, 9, 0);
+            y.burn();
+            for (int i = 0; i < length; i++) y.record(i % 2 == 0);
+            slipsAre(y, 1, 9, 0, 0, Due.NONE);
+            y.burn();
+            for (int i = 0; i < length; i++) y.record(i == 0 || i % 2 != 0);
+            slipsAre(y, 1, 9, length == 1 ? 0 : 1, length == 1 ? 0 : 1, length == 1 ? Due.NONE : 1);
+        }
     }
 
     /** What the model finds by trying every set of SLIPS. */

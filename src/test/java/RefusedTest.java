@@ -298,13 +298,13 @@ public final class RefusedTest {
 
     private static void readingChangesNothing() {
         Doc.says("Nothing is promised beyond the answers and state changes described above");
-        EvenDays x = rich();
-        List<Integer> due = asked(rich());
-        sameSeen("nothing", asked(x), due);
+        EvenDays twice = rich(), x = rich();
+        List<Integer> once = asked(twice);
+        sameSeen("what was asked ahead", asked(twice), once);
         for (int pair = 0; pair < 3; pair++) {
             for (int kind = 0; kind < 7; kind++) x.as(pair, kind);
         }
         for (int i = 0; i < 6; i++) x.news(-1 << i, 12, i, i % 2 == 0);
-        sameSeen("all was asked", allOf(x), allOf(rich()));
+        sameSeen("kinds and news", allOf(x), allOf(rich()));
     }
 }

@@ -411,13 +411,21 @@ public final class TextBoundsTest {
             Doc.fault("^" + form.substring(1));
             Doc.fault("^z" + form);
             Doc.fault("^" + tokens[0].substring(0, tokens[0].length() - 1) + " 1 1");
-            Doc.fault("^" + form.substring(0, 1).toUpperCase() + form.substring(1));
+            for (int i = 0; i < tokens[0].length(); i++) {
+                Doc.fault("^" + form.substring(0, i) + "x" + form.substring(i + 1));
+                Doc.fault("^" + form.substring(0, i) + form.substring(i, i + 1).toUpperCase() + form.substring(i + 1));
+            }
         }
     }
 
     private static void treatyLine() {
         Doc.says("treaty: N PAIRS, H HOURS, all PLAIN, all MEANT is REST");
-        EvenDays x = Due.told("treaty 6 4;kind 0 1;kind 5 3;meant 0 0 0 0 1;meant 1 1 5 3 2", "treaty 6 4");
+        EvenDays x = Due.told("treaty 6 4;kind 0 1;kind 5 3;meant 0 0 0 0 1;meant 1 1 5 3 2");
+        Due.is("the first kind", x.count(7), 1);
+        Due.is("the last kind", x.count(12), 3);
+        Due.is("the first meant", x.meant(0, 0, 0, 0), 1);
+        Due.is("the last meant", x.meant(1, 1, 5, 3), 2);
+        Due.tell(x, "treaty 6 4");
         for (int pair = 0; pair < 6; pair++) Due.is("plain", x.count(7 + pair), 0);
         for (int i = 0; i < 96; i++) Due.is("rest", x.meant(i & 1, i >> 1 & 1, (i >> 2) % 6, (i >> 2) / 6), 5);
         Due.tell(x, "kind 5 3;meant 1 1 5 3 2");
@@ -595,6 +603,13 @@ public final class TextBoundsTest {
         Doc.fault("meant 1 1 ^2 2 6");
         Doc.fault("meant 1 1 1 ^2 6");
         Doc.fault("meant 1 1 1 1 ^6");
+        // the TOKEN that can not stand at its place could stand at a later one
+        Doc.fault("work ^9 99 99 99 99");
+        Doc.fault("work ^5 - 21 0 0");
+        Doc.fault("work 0 ^4 99 99 99");
+        Doc.fault("work 0 ^- 99 99 99");
+        Doc.fault("kind ^3 99");
+        Doc.fault("meant ^5 99 99 99 99");
     }
 
     private static void tokens() {
@@ -870,6 +885,10 @@ public final class TextBoundsTest {
         x.write('.', 1);
         Due.is("then there is one", x.fault(), 17);
         Due.is("again", x.fault(), 17);
+        x.erase();
+        Due.tell(x, "eats 1");
+        Due.is("nor by another text", x.count(0), 2);
+        Due.is("nor by another text", x.count(3), 1);
     }
 
     private static void treaty() {
@@ -903,6 +922,13 @@ public final class TextBoundsTest {
             Due.is("the text stays", x.erase(), wrong.length());
         }
         Due.isTrue("something is owed", owed > 0);
+        // nor is anything of it done when another text is
+        Due.tell(x, "kind 1 2");
+        Due.is("pairs", x.count(0), 3);
+        Due.is("fine", x.count(3), 2);
+        Due.is("eats", x.count(2), 0);
+        Due.is("kind", x.count(9), 1);
+        Due.is("the new kind", x.count(8), 2);
     }
 
     private static void workAsked() {
