@@ -21,11 +21,14 @@ public final class PlanBoundsTest {
         planOutside();
         planned();
         plannedRefused();
+        newsTake();
+        newsDoesClass0();
         newsHours();
         newsLate();
         newsClasses();
         newsAlike();
         newsNeverAlike();
+        newsNone();
         newsOutside();
         harms();
         harmsStay();
@@ -342,6 +345,28 @@ public final class PlanBoundsTest {
 
     // ---- news
 
+    private static void newsTake() {
+        Doc.says("NEWS take l HOURS (0 .. 9).");
+        EvenDays x = new EvenDays();
+        for (int l : new int[] {LEAST, -2, -1, 10, 11, MOST}) Due.is("l " + l, x.news(0, 12, l, true), Due.OUTSIDE);
+        for (int l = 0; l <= 9; l++) {
+            Due.is("a change in hour " + l, x.news(-1 << 2 * l, 12, l, true), 1);
+            if (l > 0) Due.is("a change in hour " + (l - 1), x.news(-1 << 2 * l - 2, 12, l, true), Due.NONE);
+        }
+    }
+
+    private static void newsDoesClass0() {
+        Doc.says("VALLEY 0 does CLASSES told (0 .. 3). VALLEY 1 does CLASS 0, till news let it change");
+        EvenDays x = new EvenDays();
+        for (int c = 0; c < 4; c++) {
+            int all = 0x555555 * c;
+            Due.is("alike at once, class " + c, x.news(all, 12, 0, true), c == 0 ? 0 : 1);
+            Due.is("alike late, class " + c, x.news(all, 12, 1, true), c == 0 ? 0 : Due.NONE);
+            Due.is("never at once, class " + c, x.news(all, 12, 0, false), c == 0 ? 1 : 0);
+            Due.is("never late, class " + c, x.news(all, 12, 1, false), c == 0 ? Due.NONE : 0);
+        }
+    }
+
     private static void newsHours() {
         Doc.says("In a row of HOURS 0 .. m less 1 (m 1 .. 12)");
         EvenDays x = new EvenDays();
@@ -415,8 +440,22 @@ public final class PlanBoundsTest {
         Due.is("three are enough for 3", x.news(3 << 2, 1, 0, false), 1);
     }
 
-    private static void newsOutside() {
+    private static void newsNone() {
         Doc.promises(17, "Messages: ALIKE (alike true), NEVER ALIKE; NONE: it can not be.");
+        EvenDays x = new EvenDays();
+        Due.is("alike", x.news(1, 1, 0, true), 1);
+        Due.is("never alike", x.news(1, 1, 0, false), 0);
+        Due.is("alike can not be", x.news(1, 1, 1, true), Due.NONE);
+        Due.is("never alike can", x.news(1, 1, 1, false), 0);
+        Due.is("alike can", x.news(0, 1, 1, true), 0);
+        Due.is("never alike can not be", x.news(0, 1, 1, false), Due.NONE);
+        // what can not be in the first hour is mended by none that comes later
+        Due.is("alike can not be", x.news(3, 12, 1, true), Due.NONE);
+        Due.is("never alike can not be", x.news(0xfffffc, 12, 1, false), Due.NONE);
+    }
+
+    private static void newsOutside() {
+        Doc.promises(17, "OUTSIDE: m, l.");
         EvenDays x = new EvenDays();
         for (boolean alike : new boolean[] {true, false}) {
             for (int m : new int[] {LEAST, -1, 0, 13, 16, MOST}) {
@@ -505,7 +544,7 @@ public final class PlanBoundsTest {
     }
 
     private static void forced() {
-        Doc.promises(20, "The least HARM together, if one is paired with a told one.");
+        Doc.says("what it is at least if one is paired with a told one");
         for (int n = 1; n <= 6; n++) {
             EvenDays x = Due.told("treaty " + n + " 1");
             x.harm(0, 0, 5);
@@ -550,7 +589,7 @@ public final class PlanBoundsTest {
     }
 
     private static void forcedRefused() {
-        Doc.promises(20, "if one is paired with a told one. UNKNOWN.");
+        Doc.promises(20, "The least HARM together, if one is paired with a told one. UNKNOWN.");
         for (int n = 1; n <= 6; n++) {
             EvenDays x = Due.told("treaty " + n + " 1");
             for (int wrong : new int[] {LEAST, -2, -1, n, 6, MOST}) {

@@ -26,6 +26,7 @@ public final class TextBoundsTest {
         emptyText();
         mostLines();
         aLineForEachForm();
+        withoutPoints();
         treatyLine();
         breadThatIsNone();
         behindTheLinesAhead();
@@ -54,6 +55,7 @@ public final class TextBoundsTest {
         fault();
         treaty();
         treatyNot();
+        worksAsked();
         workAsked();
         meantAsked();
         counts();
@@ -418,6 +420,16 @@ public final class TextBoundsTest {
         }
     }
 
+    private static void withoutPoints() {
+        Doc.says("(As written here, without points;");
+        for (String form : FORMS) {
+            Doc.fault(form + "^.");
+            Doc.fault(form + " ^.");
+            Doc.fault(form + "^.;" + form);
+            Doc.fault("^." + form);
+        }
+    }
+
     private static void treatyLine() {
         Doc.says("treaty: N PAIRS, H HOURS, all PLAIN, all MEANT is REST");
         EvenDays x = Due.told("treaty 6 4;kind 0 1;kind 5 3;meant 0 0 0 0 1;meant 1 1 5 3 2");
@@ -592,7 +604,7 @@ public final class TextBoundsTest {
     }
 
     private static void firstToken() {
-        Doc.says("A FAULT is at the first TOKEN");
+        Doc.says("A FAULT is at the first TOKEN (a row of small letters, a row of digits, any other byte) that cannot stand there");
         Doc.fault("treaty ^0 0;peace");
         Doc.fault("eats 1;fine ^x;y");
         Doc.fault("eats 1;^peace;war");
@@ -929,6 +941,17 @@ public final class TextBoundsTest {
         Due.is("eats", x.count(2), 0);
         Due.is("kind", x.count(9), 1);
         Due.is("the new kind", x.count(8), 2);
+    }
+
+    private static void worksAsked() {
+        Doc.promises(6, "Of a WORK (0 .. 5)");
+        EvenDays x = Due.told("work 0 1 1 1 1;work 4 2 2 2 2");
+        int[] due = {1, 0, 0, 0, 2};
+        for (int what = 0; what < 4; what++) {
+            for (int work = 0; work < 5; work++) Due.is("work " + work, x.work(work, what), due[work]);
+            Due.is("rest", x.work(5, what), what == 0 ? 4 : 0);
+            for (int work : new int[] {LEAST, -2, -1, 6, 7, MOST}) Due.is("work " + work, x.work(work, what), Due.UNKNOWN);
+        }
     }
 
     private static void workAsked() {
