@@ -330,7 +330,7 @@ public final class EvenDays {
         }
 
         void tellKind(int pair, int kind) {
-            if (hasPair(pair)) kinds[pair] = kind;
+            if (hasPair(pair) && pair < MOST_PAIRS) kinds[pair] = kind;
         }
 
         void tellMeant(int odd, int slot, int work) {
@@ -954,16 +954,20 @@ public final class EvenDays {
             for (int set = 1; set <= all; set++) {
                 greatest[set] = greatestOfSet(set, pairs);
             }
-            return all >= 0 ? greatest[all] : 0;
+            return greatestKnown(all);
+        }
+
+        private int greatestKnown(int set) {
+            return within(set, 0, SETS - 1) ? greatest[set] : 0;
         }
 
         /** The first of the set stays alone, or marries one of the others. */
         private int greatestOfSet(int set, int pairs) {
             int others = set & set - 1, first = Integer.bitCount((set & -set) - 1);
-            int best = greatest[others];
+            int best = greatestKnown(others);
             for (int other = 0; other < pairs; other++) {
                 int left = others & ~(1 << other);
-                if (left != others) best = Math.max(best, greatest[left] + valueOf(first, other));
+                if (left != others) best = Math.max(best, greatestKnown(left) + valueOf(first, other));
             }
             return best;
         }
@@ -1009,24 +1013,30 @@ public final class EvenDays {
         }
 
         private int reckon(int a, int b) {
-            least[2 * length] = 0;
-            least[2 * length + 1] = 0;
+            Arrays.fill(least, 0);
             for (int day = length - 1; day >= 0; day--) {
                 for (int turned = 0; turned < 2; turned++) {
-                    int then = Math.min(least[2 * day + 2 + turned], slipTo(day + 1, 1 - turned, a));
-                    least[2 * day + turned] = costOf(day, turned, b) + then;
+                    int then = Math.min(leastFrom(day + 1, turned), slipTo(day + 1, 1 - turned, a));
+                    int index = 2 * day + turned;
+                    if (within(index, 0, least.length - 1)) least[index] = costOf(day, turned, b) + then;
                 }
             }
-            return least[0];
+            return leastFrom(0, 0);
+        }
+
+        private int leastFrom(int day, int turned) {
+            int index = 2 * day + turned;
+            return within(index, 0, least.length - 1) ? least[index] : 0;
         }
 
         private int slipTo(int day, int turned, int a) {
-            return a * COST + 1 + least[2 * day + turned];
+            return a * COST + 1 + leastFrom(day, turned);
         }
 
         private int costOf(int day, int turned, int b) {
             boolean countsAsEven = (day + turned) % 2 == 0;
-            return alike[day] == countsAsEven ? 0 : b * COST;
+            boolean isAlike = day >= 0 && day < length && day < MOST_ROWS && alike[day];
+            return isAlike == countsAsEven ? 0 : b * COST;
         }
     }
 }
