@@ -400,7 +400,7 @@ public final class EvenDays {
         private final int[] signs = new int[MOST_BYTES];
 
         void append(long bytes, int n) {
-            for (int i = 0; i < n && length < MOST_BYTES; i++) {
+            for (int i = 0; i < n && within(length, 0, MOST_BYTES - 1); i++) {
                 signs[length] = (int) (bytes >> 8 * i & 255);
                 length++;
             }
